@@ -1,0 +1,29 @@
+/** Compares answers with those that are due, prints each that differs, and ends the program. */
+final class Due {
+    private static final int MOST_PRINTED = 40;
+    private int wrong;
+
+    void is(String call, long got, long want) {
+        if (got != want) {
+            wrong++;
+            if (wrong <= MOST_PRINTED) {
+                System.out.println(call + " answered " + got + ", due is " + want);
+            }
+        }
+    }
+
+    void holds(String what, boolean true_) {
+        is(what, true_ ? 1 : 0, 1);
+    }
+
+    boolean isFine() {
+        return wrong == 0;
+    }
+
+    void end() {
+        System.out.println(wrong == 0 ? "all answers are as due" : wrong + " answers are not as due");
+        if (wrong != 0) {
+            System.exit(1);
+        }
+    }
+}
