@@ -3,8 +3,9 @@ import java.util.Random;
 
 /** Runs of calls by coins of fixed seeds, on the class and on the model of the document. */
 public final class ModelTest {
-    private static final int RUNS = 1500;
-    private static final int CALLS = 512;
+    private static final int RUNS = 2000;
+    /** An object is used for 512 calls at most, and the longest step has some 130. */
+    private static final int LAST_STEP = 380;
     private static final String SIGNS = "&|/%#^!";
     private static final int[] ODD = {-1, -2, 16, 17, 8, 5, 6, 7, 40, 56, 255, 65536, Integer.MIN_VALUE, Integer.MAX_VALUE};
 
@@ -30,7 +31,7 @@ public final class ModelTest {
     }
 
     private void play() {
-        while (calls < CALLS) {
+        while (calls < LAST_STEP) {
             step();
         }
     }
