@@ -949,15 +949,12 @@ public final class GarbledWires {
                     ^ (fourth >>> 24 | fourth << 8);
         }
 
+        /** The two bytes in the middle of what COLUMN_OF tells are S alone, as the tenth round and the keys want it. */
         private static int lastColumn(int a, int b, int c, int d) {
-            return substituted(a >>> 24) << 24
-                    | substituted(b >>> 16 & 255) << 16
-                    | substituted(c >>> 8 & 255) << 8
-                    | substituted(d & 255);
-        }
-
-        private static int substituted(int b) {
-            return COLUMN_OF[b] >>> 8 & 255;
+            return COLUMN_OF[a >>> 24] << 8 & 0xff000000
+                    | COLUMN_OF[b >>> 16 & 255] & 0x00ff0000
+                    | COLUMN_OF[c >>> 8 & 255] & 0x0000ff00
+                    | COLUMN_OF[d & 255] >>> 8 & 0x000000ff;
         }
 
         private static long joined(int first, int second) {

@@ -7,6 +7,7 @@ public final class CircuitsTest {
         promise7Texts();
         promise7Faults();
         promise7FaultsOfNumbers();
+        promise7NothingOfAFaultStays();
         promise7Most();
         promise7LongestText();
         promise7Refused();
@@ -110,6 +111,19 @@ public final class CircuitsTest {
         due.is("7: the tape is used up", x.count(0), 0);
     }
 
+    private static void promise7NothingOfAFaultStays() {
+        GarbledWires x = new GarbledWires();
+        Bench.circuit(x, "3;&0 1;|0 1;!4;>0 1 2 3 x");
+        due.is("7: behind a fault", Bench.circuit(x, "2;/0 1;>2"), 0);
+        int[] want = {2, 1, 1, 1, 3};
+        for (int what = 0; what < 5; what++) {
+            due.is("7: about(0, " + what + ") behind a fault", x.about(0, what), want[what]);
+        }
+        due.is("7: its gate", x.gate(0, 0, 0), '/');
+        due.is("7: its number among tabled ones", x.gate(0, 0, 3), 0);
+        due.is("7: its output", x.output(0, 0), 2);
+    }
+
     private static String gates(int n) {
         return "!0;".repeat(n);
     }
@@ -145,6 +159,7 @@ public final class CircuitsTest {
         for (int c = 0; c < 6; c++) {
             due.is("7: circuit " + c + " is as it was", x.output(c, 0), c);
         }
+        due.is("7: there is none behind the last", x.about(6, 0), Bench.BAD);
     }
 
     private static void promise8About() {
@@ -195,13 +210,14 @@ public final class CircuitsTest {
 
     private static void promise11PlainOfEachSign() {
         // What each sign says of x y = 0 0, 1 0, 0 1, 1 1, input 0 being x.
-        int[][] want = {{0, 0, 0, 1}, {0, 1, 1, 1}, {0, 1, 0, 0}, {1, 1, 1, 0}, {1, 0, 0, 0}, {0, 1, 1, 0}, {1, 0, 1, 0}};
+        int[][] want = {{0, 0, 0, 1}, {0, 1, 1, 1}, {0, 1, 0, 0}, {1, 1, 1, 0}, {1, 0, 0, 0}, {0, 1, 1, 0},
+            {1, 0, 1, 0}};
         for (int s = 0; s < SIGNS.length(); s++) {
             GarbledWires x = new GarbledWires();
             char sign = SIGNS.charAt(s);
-            Bench.circuit(x, "2;" + sign + (sign == '!' ? "0" : "0 1") + ";>2");
+            Bench.circuit(x, "2;" + sign + (sign == '!' ? "0" : "0 1") + ";^0 0;!3;>2 3 4");
             for (int inputs = 0; inputs < 4; inputs++) {
-                due.is("11: " + sign + " of " + inputs, x.plain(0, inputs), want[s][inputs]);
+                due.is("11: " + sign + " of " + inputs, x.plain(0, inputs), 4 + want[s][inputs]);
             }
         }
     }

@@ -12,8 +12,14 @@ final class Due {
         }
     }
 
-    void holds(String what, boolean true_) {
-        is(what, true_ ? 1 : 0, 1);
+    void holds(String what, boolean fact) {
+        is(what, fact ? 1 : 0, 1);
+    }
+
+    void sameBytes(String what, byte[] got, byte[] want) {
+        for (int i = 0; i < 16; i++) {
+            is(what + ", byte " + i, got[i] & 255, want[i] & 255);
+        }
     }
 
     boolean isFine() {

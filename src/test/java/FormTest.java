@@ -11,7 +11,7 @@ import java.util.Set;
 import java.util.TreeSet;
 import java.util.regex.Pattern;
 
-/** The public face, and those rules of LANGUAGE.md that the class or its text can tell. Runs in the project's folder. */
+/** The public face, and what of LANGUAGE.md the class or its text can tell. Runs in the project's folder. */
 public final class FormTest {
     private static final Due due = new Due();
     private static final Path SOURCE = Path.of("src/main/java/GarbledWires.java");
@@ -53,8 +53,8 @@ public final class FormTest {
         Set<String> got = new TreeSet<>();
         for (Method m : GarbledWires.class.getDeclaredMethods()) {
             if (Modifier.isPublic(m.getModifiers())) {
-                got.add(m.getReturnType() + " " + m.getName()
-                        + Arrays.toString(m.getParameterTypes()).replace("[", "(").replace("]", ")").replace(", ", ","));
+                String types = Arrays.toString(m.getParameterTypes()).replace(", ", ",");
+                got.add(m.getReturnType() + " " + m.getName() + types.replace("[", "(").replace("]", ")"));
             } else {
                 due.holds(m.getName() + " is private", Modifier.isPrivate(m.getModifiers()));
             }

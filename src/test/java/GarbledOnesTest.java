@@ -15,6 +15,7 @@ public final class GarbledOnesTest {
         promise12Three();
         promise12Halves();
         promise12AllWaysAgree();
+        promise12Most();
         promise12Short();
         promise12Refused();
         promise13Told();
@@ -43,12 +44,6 @@ public final class GarbledOnesTest {
         return Bench.coins(1, seed + 1000);
     }
 
-    private static void sameBytes(String what, byte[] got, byte[] want) {
-        for (int i = 0; i < 16; i++) {
-            due.is(what + ", byte " + i, got[i] & 255, want[i] & 255);
-        }
-    }
-
     private static byte[] coin(byte[] coins, int n) {
         return java.util.Arrays.copyOfRange(coins, 16 * n, 16 * n + 16);
     }
@@ -72,6 +67,7 @@ public final class GarbledOnesTest {
         due.is("12: FULL is told ahead of SHORT", x.garble(0, 0, 0), Bench.FULL);
         due.is("12: BAD is told ahead of FULL", x.garble(2, 0, 0), Bench.BAD);
         due.is("12: six", x.count(2), 6);
+        due.is("12: there is none behind the last", x.told(6, 0), Bench.BAD);
     }
 
     private static void promise12Coins() {
@@ -85,15 +81,16 @@ public final class GarbledOnesTest {
                 x.garble(0, way, 0);
                 byte[] delta = coin(coins, 0);
                 delta[15] |= 1;
-                sameBytes("12: delta", Bench.labelOf(x, 0, -1, 0), delta);
-                sameBytes("12: input 0", Bench.labelOf(x, 0, 0, 0), coin(coins, 1));
-                sameBytes("12: input 1", Bench.labelOf(x, 0, 1, 0), coin(coins, 2));
+                due.sameBytes("12: delta", Bench.labelOf(x, 0, -1, 0), delta);
+                due.sameBytes("12: input 0", Bench.labelOf(x, 0, 0, 0), coin(coins, 1));
+                due.sameBytes("12: input 1", Bench.labelOf(x, 0, 1, 0), coin(coins, 2));
                 if (way == 0) {
-                    sameBytes("12: the first tabled gate", Bench.labelOf(x, 0, 2, 0), coin(coins, 3));
-                    sameBytes("12: the second tabled gate", Bench.labelOf(x, 0, 4, 0), coin(coins, 4));
+                    due.sameBytes("12: the first tabled gate", Bench.labelOf(x, 0, 2, 0), coin(coins, 3));
+                    due.sameBytes("12: the second tabled gate", Bench.labelOf(x, 0, 4, 0), coin(coins, 4));
                 }
                 for (int wire = 0; wire < 5; wire++) {
-                    sameBytes("12: for 1", Bench.labelOf(x, 0, wire, 1), Bench.xor(Bench.labelOf(x, 0, wire, 0), delta));
+                    due.sameBytes("12: for 1", Bench.labelOf(x, 0, wire, 1),
+                            Bench.xor(Bench.labelOf(x, 0, wire, 0), delta));
                 }
             }
         }
@@ -102,11 +99,11 @@ public final class GarbledOnesTest {
     private static void promise12FreeGates() {
         for (int way = 0; way < 3; way++) {
             GarbledWires x = garbled("2;^0 1;!2;^3 3;>4", way, 120 + way);
-            sameBytes("12: ^", Bench.labelOf(x, 0, 2, 0),
+            due.sameBytes("12: ^", Bench.labelOf(x, 0, 2, 0),
                     Bench.xor(Bench.labelOf(x, 0, 0, 0), Bench.labelOf(x, 0, 1, 0)));
-            sameBytes("12: !", Bench.labelOf(x, 0, 3, 0), Bench.labelOf(x, 0, 2, 1));
-            sameBytes("12: ! for 1", Bench.labelOf(x, 0, 3, 1), Bench.labelOf(x, 0, 2, 0));
-            sameBytes("12: ^ of one twice", Bench.labelOf(x, 0, 4, 0), new byte[16]);
+            due.sameBytes("12: !", Bench.labelOf(x, 0, 3, 0), Bench.labelOf(x, 0, 2, 1));
+            due.sameBytes("12: ! for 1", Bench.labelOf(x, 0, 3, 1), Bench.labelOf(x, 0, 2, 0));
+            due.sameBytes("12: ^ of one twice", Bench.labelOf(x, 0, 4, 0), new byte[16]);
             due.is("12: no blocks", x.count(3), 0);
             due.is("12: no rows", x.told(0, 3), 0);
         }
@@ -158,7 +155,7 @@ public final class GarbledOnesTest {
         for (int n = 0; n < 48; n++) {
             GateRead gate = new GateRead(0, n / 6, n % 6);
             for (int r = 0; r < 4; r++) {
-                sameBytes("12: FOUR, gate " + n % 6 + " row " + r, gate.rows[r],
+                due.sameBytes("12: FOUR, gate " + n % 6 + " row " + r, gate.rows[r],
                         Bench.xor(gate.hashOfColours(r), gate.madeOfColours(r)));
             }
         }
@@ -167,9 +164,9 @@ public final class GarbledOnesTest {
     private static void promise12Three() {
         for (int n = 0; n < 48; n++) {
             GateRead gate = new GateRead(1, n / 6, n % 6);
-            sameBytes("12: THREE, what gate " + n % 6 + " makes", gate.madeOfColours(0), gate.hashOfColours(0));
+            due.sameBytes("12: THREE, what gate " + n % 6 + " makes", gate.madeOfColours(0), gate.hashOfColours(0));
             for (int r = 1; r < 4; r++) {
-                sameBytes("12: THREE, gate " + n % 6 + " row " + r, gate.rows[r],
+                due.sameBytes("12: THREE, gate " + n % 6 + " row " + r, gate.rows[r],
                         Bench.xor(gate.hashOfColours(r), gate.madeOfColours(r)));
             }
         }
@@ -200,9 +197,9 @@ public final class GarbledOnesTest {
         if (Bench.colour(b) == 1) {
             made = Bench.xor(Bench.xor(made, row1), a);
         }
-        sameBytes("12: HALVES, gate " + t + " row 0", gate.rows[0], row0);
-        sameBytes("12: HALVES, gate " + t + " row 1", gate.rows[1], row1);
-        sameBytes("12: HALVES, what gate " + t + " makes", gate.made[fgh[2]], made);
+        due.sameBytes("12: HALVES, gate " + t + " row 0", gate.rows[0], row0);
+        due.sameBytes("12: HALVES, gate " + t + " row 1", gate.rows[1], row1);
+        due.sameBytes("12: HALVES, what gate " + t + " makes", gate.made[fgh[2]], made);
     }
 
     private static void promise12AllWaysAgree() {
@@ -210,6 +207,29 @@ public final class GarbledOnesTest {
             for (long seed = 0; seed < 20; seed++) {
                 due.is("12: way " + way + " agrees", garbled(MIXED, way, seed).agrees(0, 0, 8), 1);
             }
+        }
+    }
+
+    /** 16 inputs and 40 gates, all tabled: the most labels, rows and coins that there can be. */
+    private static void promise12Most() {
+        StringBuilder text = new StringBuilder("16;");
+        for (int i = 0; i < 40; i++) {
+            text.append(TABLED.charAt(i % 5)).append(15 + i).append(' ').append(i % 16).append(';');
+        }
+        text.append(">55 54 53 52 51 16 15 0");
+        for (int way = 0; way < 3; way++) {
+            GarbledWires x = garbled(text.toString(), way, 12);
+            due.is("12: it agrees", x.agrees(0, 43690, 43698), 1);
+            due.is("12: blocks", x.told(0, 4), 160);
+            due.is("12: rows", x.told(0, 3), 40 * (4 - way));
+            x.encode(0, 4711);
+            due.is("12: gates", x.workOut(0), 40);
+            due.is("12: labels", x.told(0, 5), 56);
+            due.is("12: the run tells what is due", x.openAll(0), x.plain(0, 4711));
+            due.is("12: the last wire's label", x.active(0, 55, 15), x.label(0, 55, x.open(0, 0), 15));
+            due.is("12: delta is another thing", x.label(0, -1, 0, 0), Bench.coins(57, 12)[0] & 255);
+            due.is("12: the last row", x.row(0, 39, 1, 0), x.spoil(0, 39, 1, 0, 0));
+            due.is("12: there is no wire 56", x.label(0, 56, 0, 0), Bench.BAD);
         }
     }
 
@@ -336,17 +356,17 @@ public final class GarbledOnesTest {
         for (int way = 0; way < 3; way++) {
             GarbledWires x = garbled("2;&0 1;|0 1;>3", way, 16);
             byte[] label = Bench.labelOf(x, 0, 3, 0);
-            for (int i = 0; i < 16; i += 5) {
+            for (int i : new int[] {0, 7, 8, 15}) {
                 byte[] before = Bench.rowOf(x, 0, 1, 1);
                 int want = (before[i] ^ 0x5a) & 255;
                 due.is("16: what it is then", x.spoil(0, 1, 1, i, 0x7fffff5a), want);
                 before[i] = (byte) want;
-                sameBytes("16: this byte alone", Bench.rowOf(x, 0, 1, 1), before);
+                due.sameBytes("16: this byte alone", Bench.rowOf(x, 0, 1, 1), before);
             }
             int before = x.row(0, 1, 1, 7);
             due.is("16: a mask whose lowest byte is 0", x.spoil(0, 1, 1, 7, 256), before);
             due.is("16: a mask of -1", x.spoil(0, 1, 1, 7, -1), before ^ 255);
-            sameBytes("16: labels stay", Bench.labelOf(x, 0, 3, 0), label);
+            due.sameBytes("16: labels stay", Bench.labelOf(x, 0, 3, 0), label);
             spoilRefused(x, way);
         }
         GarbledWires x = garbled("1;!0;>1", 0, 16);

@@ -6,7 +6,8 @@ import java.util.function.IntBinaryOperator;
 
 /** The document once more, as slow and as literal as can be, over the Java library: what ModelTest compares with. */
 final class Model {
-    private static final int BAD = -1, FULL = -2, STATE = -3, SHORT = -4, NULL = -11, CAST = -13, INDEX = -12, NONE = -9;
+    private static final int BAD = -1, FULL = -2, STATE = -3, SHORT = -4;
+    private static final int NULL = -11, CAST = -13, INDEX = -12, NONE = -9;
     private static final String SIGNS = "&|/%#^!";
     private static final List<IntBinaryOperator> TRUTHS = List.of((x, y) -> x == 1 && y == 1 ? 1 : 0,
             (x, y) -> x + y >= 1 ? 1 : 0, (x, y) -> x == 1 && y == 0 ? 1 : 0, (x, y) -> x == 1 && y == 1 ? 0 : 1,

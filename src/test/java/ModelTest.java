@@ -7,7 +7,8 @@ public final class ModelTest {
     /** An object is used for 512 calls at most, and the longest step has some 130. */
     private static final int LAST_STEP = 380;
     private static final String SIGNS = "&|/%#^!";
-    private static final int[] ODD = {-1, -2, 16, 17, 8, 5, 6, 7, 40, 56, 255, 65536, Integer.MIN_VALUE, Integer.MAX_VALUE};
+    private static final int[] ODD = {-1, -2, 16, 17, 8, 5, 6, 7, 40, 56, 255, 65536, Integer.MIN_VALUE,
+        Integer.MAX_VALUE};
 
     private final Due due;
     private final Random coins;

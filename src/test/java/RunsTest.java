@@ -31,17 +31,11 @@ public final class RunsTest {
         return x;
     }
 
-    private static void sameBytes(String what, byte[] got, byte[] want) {
-        for (int i = 0; i < 16; i++) {
-            due.is(what + ", byte " + i, got[i] & 255, want[i] & 255);
-        }
-    }
-
     private static void promise17Choose() {
         GarbledWires x = garbled("2;&0 1;>2", 0, 0, 17);
         for (int truth = 0; truth < 2; truth++) {
             due.is("17: choose(0, 1, " + truth + ")", x.choose(0, 1, truth), 1);
-            sameBytes("17: its label", Bench.activeOf(x, 0, 1), Bench.labelOf(x, 0, 1, truth));
+            due.sameBytes("17: its label", Bench.activeOf(x, 0, 1), Bench.labelOf(x, 0, 1, truth));
         }
         due.is("17: the other input has none", x.active(0, 0, 0), Bench.NULL);
         int[][] wrong = {{1, 0, 0}, {-1, 0, 0}, {0, 2, 0}, {0, -1, 0}, {0, 0, 2}, {0, 0, -1},
@@ -82,18 +76,18 @@ public final class RunsTest {
         GarbledWires x = garbled("3;&0 1;>3", 2, 0, 18);
         due.is("18: encode(0, 5)", x.encode(0, 5), 3);
         for (int k = 0; k < 3; k++) {
-            sameBytes("18: input " + k, Bench.activeOf(x, 0, k), Bench.labelOf(x, 0, k, 5 >> k & 1));
+            due.sameBytes("18: input " + k, Bench.activeOf(x, 0, k), Bench.labelOf(x, 0, k, 5 >> k & 1));
         }
         due.is("18: bits beyond the inputs are not looked at", x.encode(0, -6), 3);
         for (int k = 0; k < 3; k++) {
-            sameBytes("18: input " + k, Bench.activeOf(x, 0, k), Bench.labelOf(x, 0, k, 2 >> k & 1));
+            due.sameBytes("18: input " + k, Bench.activeOf(x, 0, k), Bench.labelOf(x, 0, k, 2 >> k & 1));
         }
         due.is("18: no such one", x.encode(1, 0), Bench.BAD);
         due.is("18: no such one", x.encode(-1, 0), Bench.BAD);
         GarbledWires y = garbled("16;>0", 2, 0, 18);
         due.is("18: sixteen", y.encode(0, 0x8001), 16);
-        sameBytes("18: input 15", Bench.activeOf(y, 0, 15), Bench.labelOf(y, 0, 15, 1));
-        sameBytes("18: input 14", Bench.activeOf(y, 0, 14), Bench.labelOf(y, 0, 14, 0));
+        due.sameBytes("18: input 15", Bench.activeOf(y, 0, 15), Bench.labelOf(y, 0, 15, 1));
+        due.sameBytes("18: input 14", Bench.activeOf(y, 0, 14), Bench.labelOf(y, 0, 14, 0));
     }
 
     private static void promise19Lay() {
@@ -103,7 +97,7 @@ public final class RunsTest {
         x.feed(1, 5);
         due.is("19: lay(0, 1, 0)", x.lay(0, 1, 0), 1);
         due.is("19: the tape is used up", x.count(0), 0);
-        sameBytes("19: the label", Bench.activeOf(x, 0, 1), label);
+        due.sameBytes("19: the label", Bench.activeOf(x, 0, 1), label);
         due.is("19: one label", x.told(0, 5), 1);
         due.is("19: none of an input", x.lay(0, 1, -1), 1);
         due.is("19: it has none", x.active(0, 1, 0), Bench.NULL);
@@ -193,10 +187,10 @@ public final class RunsTest {
                 x.workOut(0);
                 byte[] and = worked(x, way, a, b, 0);
                 byte[] one = Bench.xor(a, and);
-                sameBytes("20: & of way " + way, Bench.activeOf(x, 0, 2), and);
-                sameBytes("20: ^", Bench.activeOf(x, 0, 3), one);
-                sameBytes("20: !", Bench.activeOf(x, 0, 4), one);
-                sameBytes("20: | of way " + way, Bench.activeOf(x, 0, 5), worked(x, way, one, a, 1));
+                due.sameBytes("20: & of way " + way, Bench.activeOf(x, 0, 2), and);
+                due.sameBytes("20: ^", Bench.activeOf(x, 0, 3), one);
+                due.sameBytes("20: !", Bench.activeOf(x, 0, 4), one);
+                due.sameBytes("20: | of way " + way, Bench.activeOf(x, 0, 5), worked(x, way, one, a, 1));
                 due.is("20: it is forged", x.open(0, 0), 2);
             }
         }
@@ -423,7 +417,7 @@ public final class RunsTest {
         due.is("25: it is worked out still", x.told(0, 5), 11);
         due.is("25: blocks of the latest workOut", x.told(0, 6), 10);
         due.is("25: blocks to garble it", x.told(0, 4), 20);
-        sameBytes("25: the run's label", Bench.activeOf(x, 0, 10), before);
+        due.sameBytes("25: the run's label", Bench.activeOf(x, 0, 10), before);
         due.is("25: the run's outputs", x.openAll(0), x.plain(0, 6));
     }
 

@@ -34,7 +34,7 @@ public final class TapeAndCipherTest {
         due.is("1: told(0, 0)", x.told(0, 0), Bench.BAD);
         Bench.feed(x, new byte[16]);
         x.make(0, 0);
-        sameBytes("1: the key is 0", Bench.resultOf(x), Bench.hex("66e94bd4ef8a2c3b884cfa59ca342b2e"));
+        due.sameBytes("1: the key is 0", Bench.resultOf(x), Bench.hex("66e94bd4ef8a2c3b884cfa59ca342b2e"));
         due.is("1: another new one has nothing of it", new GarbledWires().count(3), 0);
     }
 
@@ -50,7 +50,7 @@ public final class TapeAndCipherTest {
         }
         due.is("2: count(0)", x.count(0), 16);
         x.make(1, 0);
-        sameBytes("2: the order of what was fed", Bench.resultOf(x),
+        due.sameBytes("2: the order of what was fed", Bench.resultOf(x),
                 Bench.twice(Bench.hex("3401020304050607080a0b0cfffffffe")));
     }
 
@@ -91,19 +91,19 @@ public final class TapeAndCipherTest {
         due.is("4: no block is made", x.count(3), 0);
         Bench.feed(x, Bench.hex("3243f6a8885a308d313198a2e0370734"));
         x.make(0, 0);
-        sameBytes("4: a block by the key", Bench.resultOf(x), Bench.hex("3925841d02dc09fbdc118597196a0b32"));
+        due.sameBytes("4: a block by the key", Bench.resultOf(x), Bench.hex("3925841d02dc09fbdc118597196a0b32"));
         Bench.feed(x, new byte[16]);
         due.is("4: another key", x.key(), 1);
         Bench.feed(x, new byte[16]);
         x.make(0, 0);
-        sameBytes("4: a block by the other key", Bench.resultOf(x), Bench.hex("66e94bd4ef8a2c3b884cfa59ca342b2e"));
+        due.sameBytes("4: a block by the other key", Bench.resultOf(x), Bench.hex("66e94bd4ef8a2c3b884cfa59ca342b2e"));
     }
 
     private static void promise4KeyRefused() {
         GarbledWires x = new GarbledWires();
         due.is("4: key() of an empty tape", x.key(), Bench.SHORT);
+        // What stood on the tape before must not make up for the byte that is missing.
         Bench.feed(x, Bench.coins(1, 4));
-        x.feed(0, 1);
         x.clear();
         Bench.feed(x, new byte[15]);
         due.is("4: key() of 15 bytes", x.key(), Bench.SHORT);
@@ -131,7 +131,7 @@ public final class TapeAndCipherTest {
         Bench.feed(x, Bench.hex("00112233445566778899aabbccddeeff"));
         x.feed(77, 3);
         due.is("5: make(0, 99)", x.make(0, 99), 1);
-        sameBytes("5: a block", Bench.resultOf(x), Bench.hex("69c4e0d86a7b0430d8cdb78070b4c55a"));
+        due.sameBytes("5: a block", Bench.resultOf(x), Bench.hex("69c4e0d86a7b0430d8cdb78070b4c55a"));
         due.is("5: the tape is used up", x.count(0), 0);
         due.is("5: a block was made", x.count(3), 1);
     }
@@ -149,7 +149,7 @@ public final class TapeAndCipherTest {
             x.key();
             Bench.feed(x, block);
             x.make(0, 0);
-            sameBytes("5: block " + i, Bench.resultOf(x), Bench.block(key, block));
+            due.sameBytes("5: block " + i, Bench.resultOf(x), Bench.block(key, block));
         }
     }
 
@@ -165,7 +165,7 @@ public final class TapeAndCipherTest {
         for (String[] pair : pairs) {
             Bench.feed(x, Bench.hex(pair[0]));
             due.is("5: make(1, -1)", x.make(1, -1), 1);
-            sameBytes("5: double of " + pair[0], Bench.resultOf(x), Bench.hex(pair[1]));
+            due.sameBytes("5: double of " + pair[0], Bench.resultOf(x), Bench.hex(pair[1]));
         }
         due.is("5: doubles make no blocks", x.count(3), 0);
     }
@@ -181,11 +181,11 @@ public final class TapeAndCipherTest {
             byte[] b = Bench.coins(1, 80 + n);
             Bench.feed(x, a);
             due.is("5: make(2, " + numbers[n] + ")", x.make(2, numbers[n]), 1);
-            sameBytes("5: hash of one", Bench.resultOf(x), Bench.hash(key, a, null, numbers[n]));
+            due.sameBytes("5: hash of one", Bench.resultOf(x), Bench.hash(key, a, null, numbers[n]));
             Bench.feed(x, a);
             Bench.feed(x, b);
             due.is("5: make(3, " + numbers[n] + ")", x.make(3, numbers[n]), 1);
-            sameBytes("5: hash of two", Bench.resultOf(x), Bench.hash(key, a, b, numbers[n]));
+            due.sameBytes("5: hash of two", Bench.resultOf(x), Bench.hash(key, a, b, numbers[n]));
         }
         due.is("5: a block each", x.count(3), 2 * numbers.length);
     }
@@ -207,7 +207,7 @@ public final class TapeAndCipherTest {
             due.is("5: make(" + what + ", 0) of too few", x.make(what, 0), Bench.SHORT);
             due.is("5: SHORT uses the tape up", x.count(0), 0);
         }
-        sameBytes("5: the result stays", Bench.resultOf(x), before);
+        due.sameBytes("5: the result stays", Bench.resultOf(x), before);
         due.is("5: no block was made of these", x.count(3), 1);
     }
 
@@ -221,12 +221,6 @@ public final class TapeAndCipherTest {
         }
         for (int i : Bench.NOT_A_BYTE_OF_A_LABEL) {
             due.is("6: result(" + i + ")", x.result(i), Bench.BAD);
-        }
-    }
-
-    private static void sameBytes(String what, byte[] got, byte[] want) {
-        for (int i = 0; i < 16; i++) {
-            due.is(what + ", byte " + i, got[i] & 255, want[i] & 255);
         }
     }
 }
