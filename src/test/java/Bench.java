@@ -27,6 +27,53 @@ final class Bench {
         return x.circuit();
     }
 
+    /** An object with one circuit that is garbled once; the key is 0. */
+    static GarbledWires garbled(String text, int way, int kind, long seed) {
+        GarbledWires x = new GarbledWires();
+        circuit(x, text);
+        feedCoins(x, 1 + x.about(0, 0) + x.about(0, 3), seed);
+        x.garble(0, way, kind);
+        return x;
+    }
+
+    /** The most of all: 16 inputs, 40 gates, all tabled and each of the one ahead of it, 8 outputs. */
+    static String biggestText() {
+        StringBuilder text = new StringBuilder("16;");
+        for (int i = 0; i < 40; i++) {
+            text.append("&|/%#".charAt(i % 5)).append(15 + i).append(' ').append(i % 16).append(';');
+        }
+        return text.append(">55 54 53 52 51 16 15 0").toString();
+    }
+
+    /** Not lowest .. highest: the next numbers, the farthest, and those that a cut to fewer bits would let in. */
+    static int[] outside(int lowest, int highest) {
+        return new int[] {lowest - 1, highest + 1, lowest - 256, highest + 256, lowest - 65536, highest + 65536,
+            Integer.MIN_VALUE, Integer.MIN_VALUE + highest, Integer.MAX_VALUE};
+    }
+
+    /** What an object tells of itself but for the tape, to see that nothing changes; some 60 calls with one garbled. */
+    static String traces(GarbledWires x) {
+        StringBuilder all = new StringBuilder("status " + x.status());
+        for (int what = 1; what < 4; what++) {
+            all.append(" count ").append(x.count(what));
+        }
+        for (int i = 0; i < 16; i++) {
+            all.append(" result ").append(x.result(i));
+        }
+        for (int g = 0; g < x.count(2); g++) {
+            for (int what = 0; what < 7; what++) {
+                all.append(" told ").append(x.told(g, what));
+            }
+            for (int r = 0; r < 4; r++) {
+                all.append(" row ").append(x.row(g, 0, r, 0)).append(' ').append(x.row(g, 0, r, 15));
+            }
+            for (int wire = 0; wire < x.about(x.told(g, 0), 4); wire++) {
+                all.append(" active ").append(x.active(g, wire, 0)).append(' ').append(x.active(g, wire, 15));
+            }
+        }
+        return all.toString();
+    }
+
     /** Feeds this many coins of 16 bytes that come of the seed. */
     static void feedCoins(GarbledWires x, int coins, long seed) {
         feed(x, coins(coins, seed));

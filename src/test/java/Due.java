@@ -1,13 +1,23 @@
 /** Compares answers with those that are due, prints each that differs, and ends the program. */
 final class Due {
     private static final int MOST_PRINTED = 40;
+    private final String ahead;
     private int wrong;
+
+    Due() {
+        this("");
+    }
+
+    /** The words ahead of each answer that is printed tell what it was asked for. */
+    Due(String ahead) {
+        this.ahead = ahead;
+    }
 
     void is(String call, long got, long want) {
         if (got != want) {
             wrong++;
             if (wrong <= MOST_PRINTED) {
-                System.out.println(call + " answered " + got + ", due is " + want);
+                System.out.println(ahead + call + " answered " + got + ", due is " + want);
             }
         }
     }

@@ -212,13 +212,8 @@ public final class GarbledOnesTest {
 
     /** 16 inputs and 40 gates, all tabled: the most labels, rows and coins that there can be. */
     private static void promise12Most() {
-        StringBuilder text = new StringBuilder("16;");
-        for (int i = 0; i < 40; i++) {
-            text.append(TABLED.charAt(i % 5)).append(15 + i).append(' ').append(i % 16).append(';');
-        }
-        text.append(">55 54 53 52 51 16 15 0");
         for (int way = 0; way < 3; way++) {
-            GarbledWires x = garbled(text.toString(), way, 12);
+            GarbledWires x = garbled(Bench.biggestText(), way, 12);
             due.is("12: it agrees", x.agrees(0, 43690, 43698), 1);
             due.is("12: blocks", x.told(0, 4), 160);
             due.is("12: rows", x.told(0, 3), 40 * (4 - way));

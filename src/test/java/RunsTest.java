@@ -23,16 +23,8 @@ public final class RunsTest {
         due.end();
     }
 
-    private static GarbledWires garbled(String text, int way, int kind, long seed) {
-        GarbledWires x = new GarbledWires();
-        Bench.circuit(x, text);
-        Bench.feedCoins(x, 1 + x.about(0, 0) + x.about(0, 3), seed);
-        x.garble(0, way, kind);
-        return x;
-    }
-
     private static void promise17Choose() {
-        GarbledWires x = garbled("2;&0 1;>2", 0, 0, 17);
+        GarbledWires x = Bench.garbled("2;&0 1;>2", 0, 0, 17);
         for (int truth = 0; truth < 2; truth++) {
             due.is("17: choose(0, 1, " + truth + ")", x.choose(0, 1, truth), 1);
             due.sameBytes("17: its label", Bench.activeOf(x, 0, 1), Bench.labelOf(x, 0, 1, truth));
@@ -47,7 +39,7 @@ public final class RunsTest {
     }
 
     private static void promise17WhatWasWorkedOutIsGone() {
-        GarbledWires x = garbled("2;&0 1;!2;>3 0", 1, 0, 17);
+        GarbledWires x = Bench.garbled("2;&0 1;!2;>3 0", 1, 0, 17);
         for (int how = 0; how < 4; how++) {
             x.encode(0, 3);
             x.workOut(0);
@@ -73,7 +65,7 @@ public final class RunsTest {
     }
 
     private static void promise18Encode() {
-        GarbledWires x = garbled("3;&0 1;>3", 2, 0, 18);
+        GarbledWires x = Bench.garbled("3;&0 1;>3", 2, 0, 18);
         due.is("18: encode(0, 5)", x.encode(0, 5), 3);
         for (int k = 0; k < 3; k++) {
             due.sameBytes("18: input " + k, Bench.activeOf(x, 0, k), Bench.labelOf(x, 0, k, 5 >> k & 1));
@@ -84,14 +76,14 @@ public final class RunsTest {
         }
         due.is("18: no such one", x.encode(1, 0), Bench.BAD);
         due.is("18: no such one", x.encode(-1, 0), Bench.BAD);
-        GarbledWires y = garbled("16;>0", 2, 0, 18);
+        GarbledWires y = Bench.garbled("16;>0", 2, 0, 18);
         due.is("18: sixteen", y.encode(0, 0x8001), 16);
         due.sameBytes("18: input 15", Bench.activeOf(y, 0, 15), Bench.labelOf(y, 0, 15, 1));
         due.sameBytes("18: input 14", Bench.activeOf(y, 0, 14), Bench.labelOf(y, 0, 14, 0));
     }
 
     private static void promise19Lay() {
-        GarbledWires x = garbled("2;&0 1;>2 0", 0, 0, 19);
+        GarbledWires x = Bench.garbled("2;&0 1;>2 0", 0, 0, 19);
         byte[] label = Bench.coins(1, 190);
         Bench.feed(x, label);
         x.feed(1, 5);
@@ -112,7 +104,7 @@ public final class RunsTest {
     }
 
     private static void promise19LayAndTheTape() {
-        GarbledWires x = garbled("2;&0 1;>2", 0, 0, 19);
+        GarbledWires x = Bench.garbled("2;&0 1;>2", 0, 0, 19);
         x.encode(0, 3);
         x.workOut(0);
         Bench.feed(x, new byte[15]);
@@ -139,7 +131,7 @@ public final class RunsTest {
     private static void promise20WorkOut() {
         for (int way = 0; way < 3; way++) {
             for (long seed = 0; seed < 10; seed++) {
-                GarbledWires x = garbled(MIXED, way, 0, seed);
+                GarbledWires x = Bench.garbled(MIXED, way, 0, seed);
                 for (int inputs = 0; inputs < 8; inputs++) {
                     x.encode(0, inputs);
                     due.is("20: workOut(0)", x.workOut(0), 8);
@@ -147,7 +139,7 @@ public final class RunsTest {
                 }
             }
         }
-        GarbledWires x = garbled(MIXED, 0, 0, 20);
+        GarbledWires x = Bench.garbled(MIXED, 0, 0, 20);
         int before = x.count(3);
         due.is("20: no labels", x.workOut(0), Bench.NULL);
         x.choose(0, 0, 0);
@@ -165,7 +157,7 @@ public final class RunsTest {
     }
 
     private static int workOutOfNoGates() {
-        GarbledWires x = garbled("2;>1", 2, 0, 20);
+        GarbledWires x = Bench.garbled("2;>1", 2, 0, 20);
         due.is("20: an input that no gate takes, too", x.workOut(0), Bench.NULL);
         x.encode(0, 2);
         return x.workOut(0);
@@ -175,7 +167,7 @@ public final class RunsTest {
     private static void promise20WorkOutByHand() {
         for (int way = 0; way < 3; way++) {
             for (int colours = 0; colours < 4; colours++) {
-                GarbledWires x = garbled("2;&0 1;^0 2;!3;|4 0;>5", way, 0, 200 + way);
+                GarbledWires x = Bench.garbled("2;&0 1;^0 2;!3;|4 0;>5", way, 0, 200 + way);
                 byte[] a = Bench.coins(1, 300 + colours);
                 byte[] b = Bench.coins(1, 400 + colours);
                 a[15] = (byte) (a[15] & 254 | colours >> 1);
@@ -214,7 +206,7 @@ public final class RunsTest {
     }
 
     private static void promise20SpoiltRows() {
-        GarbledWires x = garbled("2;&0 1;>2", 0, 0, 21);
+        GarbledWires x = Bench.garbled("2;&0 1;>2", 0, 0, 21);
         int[] rowOfInputs = new int[4];
         for (int inputs = 0; inputs < 4; inputs++) {
             int p = x.label(0, 0, inputs & 1, 15) & 1;
@@ -239,7 +231,7 @@ public final class RunsTest {
     }
 
     private static void promise21Active() {
-        GarbledWires x = garbled("2;&0 1;>2", 2, 0, 21);
+        GarbledWires x = Bench.garbled("2;&0 1;>2", 2, 0, 21);
         due.is("21: none yet", x.active(0, 0, 0), Bench.NULL);
         x.encode(0, 3);
         due.is("21: none of what is not worked out", x.active(0, 2, 0), Bench.NULL);
@@ -267,7 +259,7 @@ public final class RunsTest {
             {0x80ff7f0180007fffL, 0xc0000000fffffffeL},
         };
         for (int kind = 0; kind < 5; kind++) {
-            GarbledWires x = garbled("2;^0 1;>2", 0, kind, 22);
+            GarbledWires x = Bench.garbled("2;^0 1;>2", 0, kind, 22);
             Bench.feed(x, label);
             x.lay(0, 0, 0);
             Bench.feed(x, new byte[16]);
@@ -303,7 +295,7 @@ public final class RunsTest {
     }
 
     private static void promise22PlaceRefused() {
-        GarbledWires x = garbled("2;&0 1;>2", 0, 4, 22);
+        GarbledWires x = Bench.garbled("2;&0 1;>2", 0, 4, 22);
         refusedPlace(x, 0, 0, 4, 0, Bench.NULL);
         refusedPlace(x, 0, 0, 3, 0, Bench.NULL);
         refusedPlace(x, 0, 0, 4, 2, Bench.NULL);
@@ -321,7 +313,7 @@ public final class RunsTest {
     }
 
     private static void promise23Open() {
-        GarbledWires x = garbled("2;&0 1;!2;>2 3 0", 1, 0, 23);
+        GarbledWires x = Bench.garbled("2;&0 1;!2;>2 3 0", 1, 0, 23);
         due.is("23: no label", x.open(0, 0), Bench.NULL);
         x.choose(0, 0, 1);
         due.is("23: an input is opened without workOut", x.open(0, 2), 1);
@@ -351,7 +343,7 @@ public final class RunsTest {
     }
 
     private static void promise24OpenAll() {
-        GarbledWires x = garbled("4;>0 1 2 3 3 2 1 0", 0, 0, 24);
+        GarbledWires x = Bench.garbled("4;>0 1 2 3 3 2 1 0", 0, 0, 24);
         due.is("24: no labels", x.openAll(0), Bench.NULL);
         x.encode(0, 0b1010);
         due.is("24: all outputs", x.openAll(0), 0b01011010);
@@ -370,7 +362,7 @@ public final class RunsTest {
         due.is("24: one has none", x.openAll(0), Bench.NULL);
         due.is("24: no such one", x.openAll(1), Bench.BAD);
         due.is("24: no such one", x.openAll(-1), Bench.BAD);
-        GarbledWires y = garbled("2;&0 1;>0 0 0 0 0 0 0 1", 0, 0, 24);
+        GarbledWires y = Bench.garbled("2;&0 1;>0 0 0 0 0 0 0 1", 0, 0, 24);
         y.encode(0, 0);
         Bench.feedCoins(y, 1, 26);
         y.lay(0, 1, 0);
@@ -379,7 +371,7 @@ public final class RunsTest {
 
     private static void promise25Agrees() {
         for (int way = 0; way < 3; way++) {
-            GarbledWires x = garbled(MIXED, way, 0, 25);
+            GarbledWires x = Bench.garbled(MIXED, way, 0, 25);
             int blocks = way == 2 ? 10 : 5;
             int before = x.count(3);
             due.is("25: agrees(0, 0, 8)", x.agrees(0, 0, 8), 1);
@@ -390,7 +382,7 @@ public final class RunsTest {
             due.is("25: the last numbers", x.agrees(0, 65528, 65536), 1);
             due.is("25: from the second on", x.agrees(0, 1, 9), 1);
         }
-        GarbledWires x = garbled("2;&0 1;>2", 0, 0, 21);
+        GarbledWires x = Bench.garbled("2;&0 1;>2", 0, 0, 21);
         int p = x.label(0, 0, 0, 15) & 1;
         int q = x.label(0, 1, 1, 15) & 1;
         x.spoil(0, 0, 2 * p + q, 0, 1);
@@ -403,7 +395,7 @@ public final class RunsTest {
     }
 
     private static void promise25AgreesLeavesTheRun() {
-        GarbledWires x = garbled(MIXED, 2, 0, 26);
+        GarbledWires x = Bench.garbled(MIXED, 2, 0, 26);
         x.agrees(0, 0, 3);
         due.is("25: no labels still", x.told(0, 5), 0);
         due.is("25: no workOut still", x.told(0, 6), 0);
@@ -422,7 +414,7 @@ public final class RunsTest {
     }
 
     private static void promise25AgreesRefused() {
-        GarbledWires x = garbled("1;>0", 0, 0, 25);
+        GarbledWires x = Bench.garbled("1;>0", 0, 0, 25);
         int[][] wrong = {{1, 0, 1}, {-1, 0, 1}, {0, -1, 1}, {0, 2, 1}, {0, 0, 9}, {0, 65530, 65537}, {0, 65537, 65537},
             {0, Integer.MIN_VALUE, Integer.MAX_VALUE}, {0, Integer.MAX_VALUE, Integer.MIN_VALUE}, {0, -8, 0},
             {0, Integer.MAX_VALUE, Integer.MAX_VALUE}, {0, 0, -1}};
