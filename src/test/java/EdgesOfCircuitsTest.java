@@ -342,6 +342,25 @@ public final class EdgesOfCircuitsTest {
         fault(due, "1;x0;x", 2);
     }
 
+    /** Where several cannot stand, the first is told, and what comes behind it does not matter. */
+    @Sentence(promise = 7, says = FIRST_BYTE)
+    static void faultsOfWhichTheFirstIsTold(Due due) {
+        fault(due, "0;&9 9;>9", 0);
+        fault(due, "17x&9 9x>9", 0);
+        fault(due, "2x&9 9;>9", 1);
+        fault(due, "2;&9 9;>9", 3);
+        fault(due, "2;&x x;>x", 3);
+        fault(due, "2;&00010 9;>9", 7);
+        fault(due, "2;&0 9>9", 5);
+        fault(due, "2;&0 1>9", 6);
+        fault(due, "2;&0 1;&9 9;>9", 8);
+        fault(due, "2;&0 1;>9 9 9", 8);
+        fault(due, "2;&0 1;>0 9 x", 10);
+        fault(due, "2;!9 9;>9", 3);
+        fault(due, "2;!0 9;>9", 5);
+        fault(due, "2;&;!;>", 3);
+    }
+
     /** A byte beyond 127 is no sign of a lower number, and the signs' neighbours are none. */
     @Sentence(promise = 7, says = FIRST_BYTE)
     static void eachByteAsASign(Due due) {
@@ -617,6 +636,7 @@ public final class EdgesOfCircuitsTest {
         due.is("plain(0, 32768)", x.plain(0, 32768), 0b01011001);
     }
 
+    /** The gate behind, ^ of one wire twice, is never true: what a gate tells is of its own wire alone. */
     @Sentence(promise = 11, says = "& both; | one or both; / x and not y; % not both; # neither; ^ just one; ! not x.")
     static void plainOfEachSignAndTruth(Due due) {
         int[][] want = {{0, 0, 0, 1}, {0, 1, 1, 1}, {0, 0, 1, 0}, {1, 1, 1, 0}, {1, 0, 0, 0}, {0, 1, 1, 0},
@@ -625,7 +645,7 @@ public final class EdgesOfCircuitsTest {
             char sign = SIGNS.charAt(s);
             for (int a = 0; a < 2; a++) {
                 for (int b = 0; b < 2; b++) {
-                    GarbledWires x = fine(due, "2;" + sign + a + (sign == '!' ? "" : " " + b) + ";>2");
+                    GarbledWires x = fine(due, "2;" + sign + a + (sign == '!' ? "" : " " + b) + ";^0 0;>2 3");
                     for (int inputs = 0; inputs < 4; inputs++) {
                         int truths = 2 * (inputs >> a & 1) + (inputs >> b & 1);
                         due.is(sign + " of wires " + a + " " + b + " by " + inputs, x.plain(0, inputs),
