@@ -346,7 +346,7 @@ public final class GarbledWires {
         if (kind != g.kind) {
             return refusePlace(CAST);
         }
-        if (i < 0 || i >= LABEL_SIZE / bytesOfPlace(kind)) {
+        if (!isPlace(kind, i)) {
             return refusePlace(INDEX);
         }
         placeStatus = 0;
@@ -431,6 +431,11 @@ public final class GarbledWires {
 
     private static boolean isKind(int kind) {
         return kind >= BYTES && kind <= LONGS;
+    }
+
+    /** A place is there if its first byte is one of the label's; i comes first, as a huge one times bytes wraps. */
+    private static boolean isPlace(int kind, int i) {
+        return isByteOfLabel(i) && isByteOfLabel(i * bytesOfPlace(kind));
     }
 
     private static int bytesOfPlace(int kind) {

@@ -9,6 +9,7 @@ import java.util.Arrays;
 import java.util.HashSet;
 import java.util.Set;
 import java.util.TreeSet;
+import java.util.regex.Matcher;
 import java.util.regex.Pattern;
 
 /** The public face, and what of LANGUAGE.md the class or its text can tell. Runs in the project's folder. */
@@ -20,7 +21,10 @@ public final class FormTest {
         constants();
         methods();
         nestedClasses();
-        words(textWithoutComments());
+        String text = textWithoutComments();
+        words(text);
+        divisors(text);
+        lengths(text);
         due.end();
     }
 
@@ -73,12 +77,14 @@ public final class FormTest {
             face.add(m.getName());
         }
         staticFieldsAreFinal(GarbledWires.class);
+        due.holds("the class has some twenty fields at most", ownFields(GarbledWires.class) <= 20);
         Class<?>[] inside = GarbledWires.class.getDeclaredClasses();
         due.holds("at most some twelve classes", inside.length <= 12);
         for (Class<?> c : inside) {
             due.holds(c.getName() + " is static, and private or package-visible", Modifier.isStatic(c.getModifiers())
                     && !Modifier.isPublic(c.getModifiers()) && !Modifier.isProtected(c.getModifiers()));
             staticFieldsAreFinal(c);
+            due.holds(c.getName() + " has some twenty fields at most", ownFields(c) <= 20);
             for (Method m : c.getDeclaredMethods()) {
                 due.holds(c.getName() + "." + m.getName() + " bears no name of the face",
                         !Modifier.isPrivate(m.getModifiers()) || !face.contains(m.getName()));
@@ -94,6 +100,14 @@ public final class FormTest {
         }
     }
 
+    private static int ownFields(Class<?> c) {
+        int all = 0;
+        for (Field f : c.getDeclaredFields()) {
+            all += Modifier.isStatic(f.getModifiers()) ? 0 : 1;
+        }
+        return all;
+    }
+
     private static String textWithoutComments() throws IOException {
         String text = Files.readString(SOURCE);
         return text.replaceAll("(?s)/\\*.*?\\*/", "").replaceAll("//[^\\n]*", "");
@@ -101,12 +115,35 @@ public final class FormTest {
 
     private static void words(String text) {
         String[] forbidden = {"throw", "throws", "try", "catch", "synchronized", "assert", "package", "protected",
-            "hashCode", "\\w+Exact"};
+            "hashCode", "import", "\\w+Exact"};
         for (String word : forbidden) {
             due.holds("no " + word, !Pattern.compile("\\b" + word + "\\b").matcher(text).find());
         }
-        due.holds("no method reference", !text.contains("::"));
+        due.holds("no lambda, no method reference", !text.contains("->") && !text.contains("::"));
         due.holds("no endless loop", !text.contains("while (true)") && !text.contains("for (;;)"));
         due.holds("no static initialiser", !Pattern.compile("static\\s*\\{").matcher(text).find());
+    }
+
+    /** A written-out number is the one divisor that needs no look ahead of it (rule 7). */
+    private static void divisors(String text) {
+        String code = text.replaceAll("'.'", "");
+        Matcher division = Pattern.compile("[/%]=?\\s*(\\S+)").matcher(code);
+        while (division.find()) {
+            due.holds("a written-out number divides, not " + division.group(1),
+                    division.group(1).matches("[1-9][0-9]*\\W*"));
+        }
+    }
+
+    /** A method begins four or eight blanks in, where a brace ends it; it has some sixty lines at most (rule 11). */
+    private static void lengths(String text) {
+        Matcher method = Pattern.compile("(?m)^( {4}| {8})(?!if|for|while|switch|\\})\\S[^\n=]*\\) \\{$").matcher(text);
+        int found = 0;
+        while (method.find()) {
+            found++;
+            int end = text.indexOf("\n" + method.group(1) + "}\n", method.end());
+            long lines = text.substring(method.start(), end + 1).lines().count();
+            due.holds("some sixty lines at most has" + method.group(), lines <= 60);
+        }
+        due.holds("the methods are found: " + found, found > 26);
     }
 }
